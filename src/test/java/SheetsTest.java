@@ -87,12 +87,10 @@ public final class SheetsTest {
     private static void lowestBits() {
         FourthFace x = knowing();
         int[] bits = {8, 16, 32};
-        int[][] wants = {{-1, 0, 0}, {-1, -1, 0}};
-        int[] highs = {0xABCD0000, 0x0000CD00};
         for (int i = 0; i < 3; i++) {
-            sheetOf(x, 0, bits[i], 7 | highs[0], 6, 5, 4, 3, 2, 1, 0);
+            sheetOf(x, 0, bits[i], 7 | 0xABCD0000, 6, 5, 4, 3, 2, 1, 0);
             due.is("high half, " + bits[i] + " bits", x.judge(0, 0), bits[i] < 32 ? -1 : 0);
-            sheetOf(x, 0, bits[i], 7, 6 | highs[1], 5, 4, 3, 2, 1, 0);
+            sheetOf(x, 0, bits[i], 7, 6 | 0x0000CD00, 5, 4, 3, 2, 1, 0);
             due.is("second byte, " + bits[i] + " bits", x.judge(0, 0), bits[i] < 16 ? -1 : 1);
         }
         sheetOf(x, 0, 8, 256, -256);

@@ -75,7 +75,7 @@ public final class VoicesTest {
         FourthFace x = manTwo(0);
         due.is("rows wrap", x.voice(2, 0, most), Integer.MIN_VALUE + 1);
         due.is("keeps wrap", x.voice(2, 1, most), 2);
-        due.is("keeps of half of all wrap", manTwo(5).voice(2, 1, most), -4);
+        due.is("keeps of one more wrap", manTwo(5).voice(2, 1, most), -4);
         FourthFace y = new FourthFace();
         y.man(0, 0);
         y.man(0, 0);
