@@ -64,7 +64,7 @@ public final class FourthFace {
         switch (what) {
             case 0: return world.personBank[person];
             case 1: return world.personCoins[person];
-            case 2: return Integer.bitCount(world.knowers(person));
+            case 2: return Integer.bitCount(world.bitsOfKnowers(person));
             case 3: return world.leastOfHeap(person);
             default: return refuse(BEYOND);
         }
@@ -331,7 +331,7 @@ public final class FourthFace {
         if (refusal != 0) {
             return refuse(refusal);
         }
-        return whatIf.behindOne(now.world, man, person).knowers(person);
+        return whatIf.behindOne(now.world, man, person).bitsOfKnowers(person);
     }
 
     public int rows(int n, int what) {
@@ -565,7 +565,7 @@ public final class FourthFace {
         return Math.max(0, Math.min(value, most));
     }
 
-    /** People, men and their minds: what a crossing changes, the toll book left out. */
+    /** Only what a crossing reads and changes, apart from Ferry, so that what would be is tried on small copies. */
     private static final class World {
         private static final int FIRST_COINS = 20;
         private static final int PLAIN_KEEPS = 3;
@@ -692,7 +692,7 @@ public final class FourthFace {
             return placeOf(man, person) >= 0;
         }
 
-        private int faces(int man) {
+        private int bitsOfFaces(int man) {
             int bits = 0;
             for (int i = 0; i < known[man]; i++) {
                 bits |= 1 << minds[man * MOST_PEOPLE + i];
@@ -700,8 +700,7 @@ public final class FourthFace {
             return bits;
         }
 
-        /** The men who know one, as bits. */
-        int knowers(int person) {
+        int bitsOfKnowers(int person) {
             int bits = 0;
             for (int man = 0; man < men; man++) {
                 if (knows(man, person)) {
@@ -711,12 +710,12 @@ public final class FourthFace {
             return bits;
         }
 
-        int heap(int person) {
+        int bitsOfHeap(int person) {
             int heap = 1 << person;
             // One round joins at least one more man's faces, or none is left to join.
             for (int round = 0; round < men; round++) {
                 for (int man = 0; man < men; man++) {
-                    int faces = faces(man);
+                    int faces = bitsOfFaces(man);
                     if ((faces & heap) != 0) {
                         heap |= faces;
                     }
@@ -726,7 +725,7 @@ public final class FourthFace {
         }
 
         int leastOfHeap(int person) {
-            int heap = heap(person);
+            int heap = bitsOfHeap(person);
             for (int one = 0; one < person; one++) {
                 if ((heap >> one & 1) == 1) {
                     return one;
@@ -750,8 +749,7 @@ public final class FourthFace {
             return manBank[man] == personBank[person];
         }
 
-        /** How many people are on a man's bank. */
-        int peopleWith(int man) {
+        int howManyWith(int man) {
             int there = 0;
             for (int person = 0; person < people; person++) {
                 if (meet(man, person)) {
@@ -761,9 +759,8 @@ public final class FourthFace {
             return there;
         }
 
-        /** Of the people on a man's bank the one with so many ahead. */
-        int oneWith(int man, int ahead) {
-            int left = ahead;
+        int oneWith(int man, int howManyAhead) {
+            int left = howManyAhead;
             for (int person = 0; person < people; person++) {
                 if (meet(man, person)) {
                     if (left == 0) {
@@ -780,7 +777,6 @@ public final class FourthFace {
             turn++;
         }
 
-        /** A crossing of one with a man on the same bank: what was paid. */
         int carry(int man, int person) {
             int paid = 0;
             boolean paidUp = false;
@@ -830,8 +826,7 @@ public final class FourthFace {
             }
         }
 
-        /** The men whose minds are not as in another world of as many men, as bits. */
-        int unlikeMinds(World other) {
+        int bitsOfUnlikeMinds(World other) {
             int bits = 0;
             for (int man = 0; man < men; man++) {
                 if (!isMindLike(man, other)) {
@@ -889,7 +884,7 @@ public final class FourthFace {
         }
 
         boolean holds(int debt, World world) {
-            return (world.heap(ower[debt]) >> owed[debt] & 1) == 1;
+            return (world.bitsOfHeap(ower[debt]) >> owed[debt] & 1) == 1;
         }
 
         int holding(World world) {
@@ -914,7 +909,7 @@ public final class FourthFace {
         }
     }
 
-    /** All that an image keeps. */
+    /** An image keeps a Ferry whole, so what no image keeps must stand elsewhere. */
     private static final class Ferry {
         static final int TAPE_BYTES = 60;
         static final int MOST_WAITING = 24;
@@ -926,7 +921,7 @@ public final class FourthFace {
         int fed;
         final int[] waits = new int[MOST_WAITING];
         int waiting;
-        /** 10 times the man, and the one; the latest crossing first. */
+        /** Its rows stand as book() answers them, 10 times the man and the one, the latest first. */
         final int[] tollBook = new int[BOOK_ROWS];
         int booked;
         int z = 1;
@@ -959,7 +954,7 @@ public final class FourthFace {
                 return;
             }
             int man = draw() % world.men;
-            int there = world.peopleWith(man);
+            int there = world.howManyWith(man);
             if (there == 0) {
                 world.rowOver(man);
             } else {
@@ -972,7 +967,7 @@ public final class FourthFace {
             return z >>> 8;
         }
 
-        /** How many faces the man's own rows of the book show from the latest back to one; above 8 if it never shows. */
+        /** So many faces had to be kept: those of the man's rows from the latest back to the one's. */
         int facesBackTo(int man, int person) {
             int seen = 0;
             for (int i = 0; i < booked; i++) {
@@ -988,14 +983,13 @@ public final class FourthFace {
         }
     }
 
-    /** What would be: worlds tried one crossing behind the other, the real one left as it is. */
+    /** Its worlds are made once and used again by every call, since all calls live in one room. */
     private static final class WhatIf {
         static final int MOST_HIRED = 4;
         static final int LONGEST_WAY = 6;
         static final int LONGEST_ROW = 3;
         private static final int NO_WAY = 1000000;
 
-        /** The world behind so many crossings of the row being tried. */
         private final World[] behind = new World[LONGEST_WAY + 1];
         private int fewest;
         int cheapest;
@@ -1017,9 +1011,9 @@ public final class FourthFace {
             return behind[0];
         }
 
-        /** The fewest hired crossings, above n if n are too few. */
         int fewestHired(World world, int person, int man, int n) {
             behind[0].copyFrom(world);
+            // Stays if n are too few.
             fewest = n + 1;
             hire(this, person, man, 0);
             return fewest;
@@ -1087,7 +1081,7 @@ public final class FourthFace {
 
         private static void follow(WhatIf tried, World to, int n, int gone, int crossed) {
             World here = tried.behind[gone];
-            int unlike = here.unlikeMinds(to);
+            int unlike = here.bitsOfUnlikeMinds(to);
             if (gone >= n || gone >= LONGEST_ROW) {
                 if (unlike == 0) {
                     tried.rowsFound++;
@@ -1113,10 +1107,10 @@ public final class FourthFace {
         }
     }
 
-    /** A text in the order in which it is worked out: first what is joined, then the sign that joins it. */
+    /** Its signs stand behind what they join, so that every crossing that asks it goes through one row once. */
     private static final class Law {
         static final int NAMES = 3;
-        /** Numbers stand above all signs. */
+        /** Names, signs and numbers stand in one row: names lowest, numbers above all signs. */
         static final int NUMBER = 256;
 
         private final int[] code;
@@ -1167,10 +1161,13 @@ public final class FourthFace {
         }
     }
 
-    /** Reads a tape as a text; where it is lost, its place is the fault. */
+    /** Each byte is decided as it is met, so the place where a reader is lost is the fault. */
     private static final class Reader {
         private static final int MOST_OPEN = 5;
         private static final int MOST_DIGITS = 4;
+        /** Signs of a higher level bind tighter; those that compare stand once between two sums. */
+        private static final int LEVELS = 5;
+        private static final int COMPARED = 2;
 
         private final int[] tape;
         private final int length;
@@ -1188,7 +1185,7 @@ public final class FourthFace {
         }
 
         boolean readsAll() {
-            readAny(0);
+            readJoined(0, 0);
             return !lost && at == length;
         }
 
@@ -1200,58 +1197,42 @@ public final class FourthFace {
             return new Law(Arrays.copyOf(code, size));
         }
 
-        private void readAny(int open) {
-            readAll(open);
-            for (int left = length; left > 0 && sees('|'); left--) {
-                at++;
-                readAll(open);
-                write('|');
-            }
-        }
-
-        private void readAll(int open) {
-            readCompared(open);
-            for (int left = length; left > 0 && sees('&'); left--) {
-                at++;
-                readCompared(open);
-                write('&');
-            }
-        }
-
-        private void readCompared(int open) {
-            readSum(open);
-            if (sees('<') || sees('=') || sees('>')) {
-                int sign = tape[at];
-                at++;
-                readSum(open);
-                write(sign);
-            }
-        }
-
-        private void readSum(int open) {
-            readProduct(open);
-            for (int left = length; left > 0 && (sees('+') || sees('-')); left--) {
-                int sign = tape[at];
-                at++;
-                readProduct(open);
-                write(sign);
-            }
-        }
-
-        private void readProduct(int open) {
-            readOne(open);
-            for (int left = length; left > 0 && (sees('*') || sees('/') || sees('%')); left--) {
-                int sign = tape[at];
-                at++;
+        private void readJoined(int level, int open) {
+            if (level >= LEVELS) {
                 readOne(open);
+                return;
+            }
+            readJoined(level + 1, open);
+            int most = level == COMPARED ? 1 : length;
+            for (int left = most; left > 0 && joinsAt(level); left--) {
+                int sign = tape[at];
+                at++;
+                readJoined(level + 1, open);
                 write(sign);
+            }
+        }
+
+        private boolean joinsAt(int level) {
+            return !lost && at < length && levelOf(tape[at]) == level;
+        }
+
+        private static int levelOf(int sign) {
+            switch (sign) {
+                case '|': return 0;
+                case '&': return 1;
+                case '<':
+                case '=':
+                case '>': return COMPARED;
+                case '+':
+                case '-': return 3;
+                case '*':
+                case '/':
+                case '%': return 4;
+                default: return -1;
             }
         }
 
         private void readOne(int open) {
-            if (lost) {
-                return;
-            }
             if (seesDigit()) {
                 readNumber();
             } else if (at < length && nameOf(tape[at]) >= 0) {
@@ -1263,7 +1244,7 @@ public final class FourthFace {
                 write('!');
             } else if (sees('(') && open < MOST_OPEN) {
                 at++;
-                readAny(open + 1);
+                readJoined(0, open + 1);
                 close();
             } else {
                 lost = true;
@@ -1313,7 +1294,6 @@ public final class FourthFace {
         }
     }
 
-    /** The bodies of the voices, and the trace of the latest voice. */
     private static final class Voices {
         static final int VOICES = 4;
         private static final int ROWS = 0;
@@ -1322,7 +1302,7 @@ public final class FourthFace {
         private static final int PARTS = 3;
         private static final int DEEPEST = 30;
         private static final int LONGEST_TRACE = 30;
-        /** Of each kind the bodies of its four voices, 0 where it has none of its own. */
+        /** Four of each kind, 0 where it has no body of its own. */
         private static final int[] BODIES = {
             10, 11, 12, 13,
             20, 0, 0, 21,
@@ -1349,7 +1329,6 @@ public final class FourthFace {
             return say(this, kind, voice, x, 0);
         }
 
-        /** The voice's body of a kind, or of the next above that has one. */
         private static int say(Voices of, int from, int voice, int x, int depth) {
             int body = bodyFrom(from, voice);
             if (body == 0 || depth >= DEEPEST) {
@@ -1365,6 +1344,7 @@ public final class FourthFace {
                 case 13: return of.part(x);
                 case 20: return say(of, up, ROWS, x, next) - 5;
                 case 21: {
+                    // What is parted ends the voice: no body begins behind it.
                     int parts = say(of, up, PARTS, x, next);
                     return of.parted ? 0 : parts + say(of, of.kind, KEEPS, 1, next);
                 }
@@ -1374,7 +1354,8 @@ public final class FourthFace {
                 case 51: return say(of, up, ASKS, x, next) ^ of.k;
                 case 60: return say(of, up, KEEPS, x + 1, next);
                 case 70: return 3;
-                default: return say(of, up, KEEPS, x, next) + of.m;
+                case 71: return say(of, up, KEEPS, x, next) + of.m;
+                default: return 0;
             }
         }
 
@@ -1412,7 +1393,6 @@ public final class FourthFace {
         static final int MOST_NUMBERS = 24;
         private static final int SHEETS = 4;
 
-        /** How many bits; a missing sheet has none. */
         final int[] width = new int[SHEETS];
         final int[] size = new int[SHEETS];
         final int[][] numbers = new int[SHEETS][MOST_NUMBERS];

@@ -172,6 +172,7 @@ public final class ImagesAndTellingTest {
         checkIs(x, 4, 1, 2, 3, 4);
         checkIs(x, 4, 1, 2, 3, 3);
         checkIs(x, 2, 1, 1, 2, 3);
+        checkIs(x, 3, 1, 2, 1);
         checkIs(x, 3, 3, 2, -1);
         checkIs(x, 1, Integer.MAX_VALUE);
         checkIs(x, 1, 33);

@@ -178,6 +178,9 @@ public final class TextsTest {
         due.is("the other stays", x.manIs(0, 5), 77);
         due.is("untell(1)", x.untell(1), 1);
         due.is("it is gone", x.manIs(0, 5), 4);
+        x.person(0);
+        x.cross(0, 0);
+        due.is("m and one known", x.manIs(0, 5), 5);
         due.is("untell(1) again", x.untell(1), 0);
         due.is("untell(2)", x.untell(2), Due.BEYOND);
         due.is("untell(-1)", x.untell(-1), Due.BEYOND);
