@@ -150,8 +150,11 @@ public final class ModelTest {
     }
 
     private String aText() {
-        if (random.nextInt(3) > 0) {
+        if (random.nextInt(3) == 0) {
             return TEXTS[random.nextInt(TEXTS.length)];
+        }
+        if (random.nextInt(2) == 0) {
+            return aWholeText(random.nextInt(7), random.nextBoolean() ? "tp" : "kb");
         }
         String signs = random.nextBoolean() ? "mtp0129+-*/%<=>|&!()()" : "mkb0129+-*/%<=>|&!()!!";
         StringBuilder text = new StringBuilder();
@@ -161,6 +164,42 @@ public final class ModelTest {
             text.append(operand ? signs.charAt(random.nextInt(7)) : signs.charAt(random.nextInt(signs.length())));
         }
         return text.toString();
+    }
+
+    /** By the grammar, of 60 bytes at most, now and then with one byte that is another. */
+    private String aWholeText(int deep, String names) {
+        StringBuilder text = new StringBuilder();
+        join(text, deep, names);
+        if (random.nextInt(4) == 0) {
+            String signs = "mtkpb019+-*/%<=>|&!() ";
+            text.setCharAt(random.nextInt(text.length()), signs.charAt(random.nextInt(signs.length())));
+        }
+        return text.substring(0, Math.min(60, text.length()));
+    }
+
+    private void join(StringBuilder text, int deep, String names) {
+        int joined = random.nextInt(4);
+        one(text, deep, names);
+        for (int i = 0; i < joined; i++) {
+            text.append("|&<=>+-*/%+-*".charAt(random.nextInt(13)));
+            one(text, deep, names);
+        }
+    }
+
+    private void one(StringBuilder text, int deep, String names) {
+        int which = random.nextInt(deep > 0 ? 6 : 3);
+        if (which == 0) {
+            text.append(random.nextInt(random.nextBoolean() ? 4 : 10000));
+        } else if (which < 3) {
+            text.append(random.nextBoolean() ? 'm' : names.charAt(random.nextInt(2)));
+        } else if (which == 3) {
+            text.append('!');
+            one(text, deep - 1, names);
+        } else {
+            text.append('(');
+            join(text, deep - 1, names);
+            text.append(')');
+        }
     }
 
     private void texts() {
