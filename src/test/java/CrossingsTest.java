@@ -67,14 +67,14 @@ public final class CrossingsTest {
     private static void aPaidOneForgets() {
         FourthFace x = Due.withPeople(3);
         x.man(52, 0);
-        carryOverAndBack(x, 0, 0);
+        Scene.carryOverAndBack(x, 0, 0);
         due.is("paid and forgotten", x.manIs(0, 6), 0);
         due.is("a fare of two", x.manIs(0, 3), 2);
         x.setPerson(1, 1, 1);
-        carryOverAndBack(x, 0, 1);
+        Scene.carryOverAndBack(x, 0, 1);
         due.is("one coin of two", x.manIs(0, 3), 3);
         due.is("not paid, not forgotten", x.manIs(0, 7), 1);
-        carryOverAndBack(x, 0, 2);
+        Scene.carryOverAndBack(x, 0, 2);
         x.cross(0, 0);
         due.is("three: 0 over", x.manIs(0, 7), 0);
         due.is("1 behind", x.manIs(0, 8), 1);
@@ -84,13 +84,8 @@ public final class CrossingsTest {
         due.is("0 pays and is forgotten, the others stay", x.manIs(0, 7), 1);
         due.is("one is left", x.manIs(0, 6), 1);
         x.setMan(0, 0, 2);
-        carryOverAndBack(x, 0, 0);
+        Scene.carryOverAndBack(x, 0, 0);
         due.is("a SOFT one forgets none who paid", x.manIs(0, 7), 0);
-    }
-
-    private static void carryOverAndBack(FourthFace x, int man, int person) {
-        x.cross(man, person);
-        x.cross(man, person);
     }
 
     private static void aGossip() {
@@ -126,7 +121,7 @@ public final class CrossingsTest {
     private static void aBlindOneForgetsAll() {
         FourthFace x = Due.withPeople(2);
         x.man(0, 0);
-        carryOverAndBack(x, 0, 0);
+        Scene.carryOverAndBack(x, 0, 0);
         x.setMan(0, 0, 3);
         due.is("told anew he knows", x.manIs(0, 6), 1);
         due.is("a stranger goes free", x.cross(0, 1), 0);
@@ -138,7 +133,7 @@ public final class CrossingsTest {
         FourthFace x = Due.withPeople(1);
         x.man(62, 0);
         Due.text(x, 1, "0");
-        carryOverAndBack(x, 0, 0);
+        Scene.carryOverAndBack(x, 0, 0);
         due.is("known", x.manIs(0, 6), 1);
         due.is("pays none", x.cross(0, 0), 0);
     }

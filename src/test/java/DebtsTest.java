@@ -16,18 +16,6 @@ public final class DebtsTest {
         due.close();
     }
 
-    /** Man 0 knows so many of people, the latest the highest, all back on bank 0; their coins 20 again. */
-    private static FourthFace known(int people, int knownOnes) {
-        FourthFace x = Due.withPeople(people);
-        x.man(15, 0);
-        for (int i = 0; i < knownOnes; i++) {
-            x.cross(0, i);
-            x.cross(0, i);
-            x.setPerson(i, 1, 20);
-        }
-        return x;
-    }
-
     private static void debts() {
         FourthFace x = Due.withPeople(3);
         for (int i = 0; i < 8; i++) {
@@ -55,7 +43,7 @@ public final class DebtsTest {
     }
 
     private static void ofADebt() {
-        FourthFace x = known(3, 2);
+        FourthFace x = Scene.known(3, 2);
         x.debt(1, 2, 7);
         x.debt(1, 0, 8);
         due.is("who", x.debtIs(0, 0), 1);
@@ -97,7 +85,7 @@ public final class DebtsTest {
     }
 
     private static void paying() {
-        FourthFace x = known(2, 2);
+        FourthFace x = Scene.known(2, 2);
         x.debt(0, 1, 15);
         due.is("paid", x.pay(0), 15);
         due.is("who owed", x.personIs(0, 1), 5);
@@ -112,7 +100,7 @@ public final class DebtsTest {
     }
 
     private static void payingInPart() {
-        FourthFace x = known(2, 2);
+        FourthFace x = Scene.known(2, 2);
         x.debt(1, 0, 50);
         due.is("as far as coins go", x.pay(0), 20);
         due.is("less", x.debtIs(0, 2), 30);
@@ -125,7 +113,7 @@ public final class DebtsTest {
     }
 
     private static void payingMoreThanOneMayHave() {
-        FourthFace x = known(2, 2);
+        FourthFace x = Scene.known(2, 2);
         x.setPerson(0, 1, 500);
         x.setPerson(1, 1, 9990);
         x.debt(0, 1, 30);
@@ -136,7 +124,7 @@ public final class DebtsTest {
     }
 
     private static void thoseBehindMoveUp() {
-        FourthFace x = known(4, 4);
+        FourthFace x = Scene.known(4, 4);
         x.debt(0, 1, 1);
         x.debt(1, 2, 2);
         x.debt(2, 3, 3);

@@ -84,12 +84,12 @@ public final class PeopleAndMenTest {
         x.man(0, 0);
         x.man(0, 0);
         x.man(0, 0);
-        carryOverAndBack(x, 0, 4);
-        carryOverAndBack(x, 0, 2);
-        carryOverAndBack(x, 1, 5);
-        carryOverAndBack(x, 1, 4);
-        carryOverAndBack(x, 2, 3);
-        carryOverAndBack(x, 2, 1);
+        Scene.carryOverAndBack(x, 0, 4);
+        Scene.carryOverAndBack(x, 0, 2);
+        Scene.carryOverAndBack(x, 1, 5);
+        Scene.carryOverAndBack(x, 1, 4);
+        Scene.carryOverAndBack(x, 2, 3);
+        Scene.carryOverAndBack(x, 2, 1);
         due.is("who knows 4", x.personIs(4, 2), 2);
         due.is("who knows 5", x.personIs(5, 2), 1);
         due.is("who knows 0", x.personIs(0, 2), 0);
@@ -98,16 +98,11 @@ public final class PeopleAndMenTest {
         due.is("heap of 3", x.personIs(3, 3), 1);
         due.is("heap of 0, whom none knows", x.personIs(0, 3), 0);
         x.setPerson(1, 1, 9);
-        carryOverAndBack(x, 1, 1);
+        Scene.carryOverAndBack(x, 1, 1);
         due.is("all but 0 are one heap", x.personIs(5, 3), 1);
         due.is("also 2", x.personIs(2, 3), 1);
-        carryOverAndBack(x, 2, 0);
+        Scene.carryOverAndBack(x, 2, 0);
         due.is("and 0", x.personIs(5, 3), 0);
-    }
-
-    private static void carryOverAndBack(FourthFace x, int man, int person) {
-        x.cross(man, person);
-        x.cross(man, person);
     }
 
     private static void men() {
@@ -163,12 +158,12 @@ public final class PeopleAndMenTest {
         FourthFace x = Due.withPeople(8);
         x.man(15, 0);
         for (int i = 0; i < 8; i++) {
-            carryOverAndBack(x, 0, i);
+            Scene.carryOverAndBack(x, 0, i);
         }
         due.is("knows eight", x.manIs(0, 6), 8);
         due.is("latest first", x.manIs(0, 7), 7);
         due.is("oldest last", x.manIs(0, 14), 0);
-        carryOverAndBack(x, 0, 3);
+        Scene.carryOverAndBack(x, 0, 3);
         due.is("a face that comes again is first", x.manIs(0, 7), 3);
         due.is("then the one ahead", x.manIs(0, 8), 7);
         due.is("and nowhere else", x.manIs(0, 11), 4);
@@ -196,7 +191,7 @@ public final class PeopleAndMenTest {
         for (int kind = 0; kind < 7; kind++) {
             FourthFace x = Due.withPeople(1);
             x.man(0, 0);
-            carryOverAndBack(x, 0, 0);
+            Scene.carryOverAndBack(x, 0, 0);
             x.setMan(0, 0, kind);
             for (int as = 0; as < 7; as++) {
                 due.is("a " + kind + " as " + as, x.as(0, as), under[kind][as] ? 2 : Due.KIND);
@@ -235,9 +230,9 @@ public final class PeopleAndMenTest {
         FourthFace x = Due.withPeople(3);
         x.man(0, 0);
         x.man(0, 0);
-        carryOverAndBack(x, 0, 0);
-        carryOverAndBack(x, 0, 1);
-        carryOverAndBack(x, 1, 1);
+        Scene.carryOverAndBack(x, 0, 0);
+        Scene.carryOverAndBack(x, 0, 1);
+        Scene.carryOverAndBack(x, 1, 1);
         due.is("forgets two", x.forget(0), 2);
         due.is("forgets none", x.forget(0), 0);
         due.is("no face", x.manIs(0, 7), -1);

@@ -16,25 +16,6 @@ public final class SheetsTest {
         due.close();
     }
 
-    private static FourthFace sheetOf(FourthFace x, int sheet, int bits, int... numbers) {
-        x.sheet(sheet, bits, numbers.length);
-        for (int i = 0; i < numbers.length; i++) {
-            x.put(sheet, i, numbers[i]);
-        }
-        return x;
-    }
-
-    /** Man 0 knows 7, 6, .. 0 in this order: what a sheet of numbers holds can be judged by him. */
-    private static FourthFace knowing() {
-        FourthFace x = Due.withPeople(8);
-        x.man(15, 0);
-        for (int i = 0; i < 8; i++) {
-            x.cross(0, i);
-            x.cross(0, i);
-        }
-        return x;
-    }
-
     private static void sheets() {
         FourthFace x = new FourthFace();
         int[] bits = {8, 16, 32, 8};
@@ -71,8 +52,8 @@ public final class SheetsTest {
     }
 
     private static void numbers() {
-        FourthFace x = knowing();
-        sheetOf(x, 0, 32, 7, 6, 5, 4, 3, 2, 1, 0);
+        FourthFace x = Scene.known(8, 8);
+        Scene.sheetOf(x, 0, 32, 7, 6, 5, 4, 3, 2, 1, 0);
         due.is("as put", x.judge(0, 0), -1);
         x.sheet(0, 32, 8);
         due.is("all 0 anew", x.judge(0, 0), 0);
@@ -85,39 +66,39 @@ public final class SheetsTest {
     }
 
     private static void lowestBits() {
-        FourthFace x = knowing();
+        FourthFace x = Scene.known(8, 8);
         int[] bits = {8, 16, 32};
         for (int i = 0; i < 3; i++) {
-            sheetOf(x, 0, bits[i], 7 | 0xABCD0000, 6, 5, 4, 3, 2, 1, 0);
+            Scene.sheetOf(x, 0, bits[i], 7 | 0xABCD0000, 6, 5, 4, 3, 2, 1, 0);
             due.is("high half, " + bits[i] + " bits", x.judge(0, 0), bits[i] < 32 ? -1 : 0);
-            sheetOf(x, 0, bits[i], 7, 6 | 0x0000CD00, 5, 4, 3, 2, 1, 0);
+            Scene.sheetOf(x, 0, bits[i], 7, 6 | 0x0000CD00, 5, 4, 3, 2, 1, 0);
             due.is("second byte, " + bits[i] + " bits", x.judge(0, 0), bits[i] < 16 ? -1 : 1);
         }
-        sheetOf(x, 0, 8, 256, -256);
+        Scene.sheetOf(x, 0, 8, 256, -256);
         due.is("256 in 8 bits is 0, -256, too", x.crossings(0), 1);
     }
 
     private static void moves() {
-        FourthFace x = knowing();
-        sheetOf(x, 0, 8, 9, 9, 7, 6, 5, 4);
-        sheetOf(x, 1, 8, 0, 0, 0, 0, 3, 2, 1, 0);
+        FourthFace x = Scene.known(8, 8);
+        Scene.sheetOf(x, 0, 8, 9, 9, 7, 6, 5, 4);
+        Scene.sheetOf(x, 1, 8, 0, 0, 0, 0, 3, 2, 1, 0);
         due.is("four", x.move(0, 2, 1, 0, 4), 4);
         due.is("they came", x.judge(1, 0), -1);
         due.is("none", x.move(0, 6, 1, 8, 0), 0);
         due.is("all", x.move(1, 0, 1, 0, 8), 8);
         due.is("as they were", x.judge(1, 0), -1);
-        sheetOf(x, 2, 8, 7, 6, 5, 4, 3, 2, 1, 0);
+        Scene.sheetOf(x, 2, 8, 7, 6, 5, 4, 3, 2, 1, 0);
         due.is("one", x.move(0, 0, 2, 7, 1), 1);
         due.is("to its place", x.judge(2, 0), 7);
     }
 
     private static void movesWithin() {
-        FourthFace x = knowing();
-        sheetOf(x, 0, 16, 7, 5, 4, 3, 2, 1, 0, 99);
+        FourthFace x = Scene.known(8, 8);
+        Scene.sheetOf(x, 0, 16, 7, 5, 4, 3, 2, 1, 0, 99);
         due.is("up by one", x.move(0, 1, 0, 2, 6), 6);
         x.put(0, 1, 6);
         due.is("as they all were", x.judge(0, 0), -1);
-        sheetOf(x, 0, 16, 99, 7, 6, 5, 4, 3, 2, 1);
+        Scene.sheetOf(x, 0, 16, 99, 7, 6, 5, 4, 3, 2, 1);
         due.is("down by one", x.move(0, 1, 0, 0, 7), 7);
         x.put(0, 7, 0);
         due.is("as they all were, too", x.judge(0, 0), -1);
@@ -153,7 +134,7 @@ public final class SheetsTest {
         FourthFace x = Due.withPeople(3);
         x.man(1, 0);
         x.man(0, 0);
-        sheetOf(x, 0, 32, 0, 2, 0, 2, 1, 0);
+        Scene.sheetOf(x, 0, 32, 0, 2, 0, 2, 1, 0);
         due.is("three came", x.crossings(0), 3);
         due.is("the latest", x.book(0), 10);
         due.is("the first", x.book(2), 2);
@@ -167,20 +148,20 @@ public final class SheetsTest {
     private static void crossingsThatEnd() {
         FourthFace x = Due.withPeople(2);
         x.man(0, 0);
-        sheetOf(x, 0, 8, 0, 0, 0);
+        Scene.sheetOf(x, 0, 8, 0, 0, 0);
         due.is("one that isn't whole", x.crossings(0), 1);
-        sheetOf(x, 0, 8, 0, 1, 0, 0);
+        Scene.sheetOf(x, 0, 8, 0, 1, 0, 0);
         due.is("one on another bank", x.crossings(0), 0);
-        sheetOf(x, 0, 8, 0, 0, 0, 1, 0, 0, 0, 0);
+        Scene.sheetOf(x, 0, 8, 0, 0, 0, 1, 0, 0, 0, 0);
         due.is("up to the first that is refused", x.crossings(0), 2);
         due.is("what came stays", x.count(2), 3);
-        sheetOf(x, 0, 8, 0, 2);
+        Scene.sheetOf(x, 0, 8, 0, 2);
         due.is("no such one", x.crossings(0), 0);
-        sheetOf(x, 0, 8, 1, 0);
+        Scene.sheetOf(x, 0, 8, 1, 0);
         due.is("no such man", x.crossings(0), 0);
-        sheetOf(x, 0, 8, -1, -1);
+        Scene.sheetOf(x, 0, 8, -1, -1);
         due.is("below", x.crossings(0), 0);
-        sheetOf(x, 0, 8, 0);
+        Scene.sheetOf(x, 0, 8, 0);
         due.is("half a crossing", x.crossings(0), 0);
         due.is("none of it is an error", x.told(1) + x.told(3), 0);
     }
@@ -193,18 +174,18 @@ public final class SheetsTest {
             x.cross(0, i);
             x.cross(0, i);
         }
-        sheetOf(x, 0, 8, 3, 2, 1);
+        Scene.sheetOf(x, 0, 8, 3, 2, 1);
         due.is("all are", x.judge(0, 0), -1);
         due.is("too many for an empty mind", x.judge(0, 1), 0);
-        sheetOf(x, 0, 8, 3, 1, 2);
+        Scene.sheetOf(x, 0, 8, 3, 1, 2);
         due.is("another order", x.judge(0, 0), 1);
-        sheetOf(x, 0, 8, 3, 2);
+        Scene.sheetOf(x, 0, 8, 3, 2);
         due.is("one lacks", x.judge(0, 0), 2);
-        sheetOf(x, 0, 8, 3, 2, 1, 0);
+        Scene.sheetOf(x, 0, 8, 3, 2, 1, 0);
         due.is("one too many", x.judge(0, 0), 3);
-        sheetOf(x, 0, 8, 3, 2, 0, 0);
+        Scene.sheetOf(x, 0, 8, 3, 2, 0, 0);
         due.is("a wrong one first", x.judge(0, 0), 2);
-        sheetOf(x, 0, 8, -1);
+        Scene.sheetOf(x, 0, 8, -1);
         due.is("none such", x.judge(0, 0), 0);
         x.sheet(0, 8, 0);
         due.is("all lack", x.judge(0, 0), 0);

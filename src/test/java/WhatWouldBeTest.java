@@ -23,16 +23,11 @@ public final class WhatWouldBeTest {
         due.close();
     }
 
-    private static void carryOverAndBack(FourthFace x, int man, int person) {
-        x.cross(man, person);
-        x.cross(man, person);
-    }
-
     private static void strangers() {
         FourthFace x = Due.withPeople(5);
         x.man(0, 0);
         due.is("whom he doesn't know, by 0", x.stranger(0, 0, 0), 0);
-        carryOverAndBack(x, 0, 0);
+        Scene.carryOverAndBack(x, 0, 0);
         due.is("known, by 0", x.stranger(0, 0, 0), Due.NONE);
         // Three new faces must come, and an even number of crossings brings him back.
         due.is("by 3", x.stranger(0, 0, 3), Due.NONE);
@@ -42,7 +37,7 @@ public final class WhatWouldBeTest {
         due.is("one waits over there", x.stranger(0, 0, 4), 4);
         due.is("not by 3", x.stranger(0, 0, 3), Due.NONE);
         due.is("nothing came of it", x.count(2) * 100 + x.manIs(0, 2) * 10 + x.manIs(0, 6), 201);
-        carryOverAndBack(x, 0, 2);
+        Scene.carryOverAndBack(x, 0, 2);
         due.is("one face less to come", x.stranger(0, 0, 4), 2);
         due.is("by 2, too", x.stranger(0, 0, 2), 2);
         due.is("not by 1", x.stranger(0, 0, 1), Due.NONE);
@@ -67,9 +62,9 @@ public final class WhatWouldBeTest {
         // Keeps 3 and knows 2, 1, 0: to lose 0 a new face must come; whoever pays is forgotten instead.
         FourthFace x = Due.withPeople(5);
         x.man(0, 0);
-        carryOverAndBack(x, 0, 0);
-        carryOverAndBack(x, 0, 1);
-        carryOverAndBack(x, 0, 2);
+        Scene.carryOverAndBack(x, 0, 0);
+        Scene.carryOverAndBack(x, 0, 1);
+        Scene.carryOverAndBack(x, 0, 2);
         x.setPerson(3, 0, 1);
         x.setPerson(4, 0, 1);
         due.is("a MAN: one over, one back", x.stranger(0, 0, 4), 2);
@@ -84,7 +79,7 @@ public final class WhatWouldBeTest {
         FourthFace x = Due.withPeople(2);
         x.man(60, 0);
         Due.text(x, 0, "8-t*2");
-        carryOverAndBack(x, 0, 0);
+        Scene.carryOverAndBack(x, 0, 0);
         due.is("at turn 2 he keeps 4", x.manIs(0, 4), 4);
         // Behind turn 3 he keeps 2 faces, 1 and 0; a crossing at turn 4 leaves him none.
         due.is("at turn 3 he keeps 2, at turn 4 none", x.stranger(0, 0, 4), 4);
@@ -191,19 +186,19 @@ public final class WhatWouldBeTest {
         x.man(15, 0);
         x.man(0, 0);
         for (int i = 0; i < 8; i++) {
-            carryOverAndBack(x, 0, i);
+            Scene.carryOverAndBack(x, 0, i);
         }
         due.is("the latest", x.memory(0, 7), 1);
         due.is("the one ahead", x.memory(0, 6), 2);
         due.is("the first of eight", x.memory(0, 0), 8);
         due.is("another man", x.memory(1, 0), Due.NONE);
-        carryOverAndBack(x, 0, 0);
+        Scene.carryOverAndBack(x, 0, 0);
         due.is("it came again", x.memory(0, 0), 1);
         due.is("the others one later", x.memory(0, 1), 8);
         // The book has 24 crossings, 12 rides over and back: 2 to 7, 0, and five of another man.
         for (int i = 0; i < 5; i++) {
             due.is("1 is in the book still", x.memory(0, 1), 8);
-            carryOverAndBack(x, 1, 7);
+            Scene.carryOverAndBack(x, 1, 7);
         }
         due.is("1 is in the book no more", x.memory(0, 1), Due.NONE);
         due.is("2 is the oldest", x.memory(0, 2), 7);
@@ -217,13 +212,13 @@ public final class WhatWouldBeTest {
         FourthFace x = Due.withPeople(3);
         x.man(0, 0);
         x.man(40, 0);
-        carryOverAndBack(x, 0, 0);
-        carryOverAndBack(x, 1, 1);
+        Scene.carryOverAndBack(x, 0, 0);
+        Scene.carryOverAndBack(x, 1, 1);
         due.is("he heard of 1", x.manIs(0, 7), 1);
         due.is("hearing is no crossing of his", x.memory(0, 0), 1);
         due.is("1 he never carried", x.memory(0, 1), Due.NONE);
         x.setMan(0, 0, 5);
-        carryOverAndBack(x, 0, 2);
+        Scene.carryOverAndBack(x, 0, 2);
         due.is("paid and forgotten", x.personIs(2, 2), 0);
         due.is("whatever was paid", x.memory(0, 2), 1);
         x.forget(0);
@@ -240,7 +235,7 @@ public final class WhatWouldBeTest {
         x.man(30, 1);
         due.is("he alone", x.hearsay(0, 0), 1);
         due.is("a gossip, and who is there", x.hearsay(1, 0), 6);
-        carryOverAndBack(x, 0, 0);
+        Scene.carryOverAndBack(x, 0, 0);
         due.is("who knew the one ahead, too", x.hearsay(1, 0), 7);
         x.setMan(0, 0, 5);
         due.is("a PAID one, paid, won't know", x.hearsay(0, 0), 0);
