@@ -19,6 +19,7 @@ public final class TermsTest {
         coinsAtTheFare();
         paidAndNotPaid();
         paidForgetsTheOneAlone();
+        paidForgetsAnyOfEight();
         aGossipIsHeardByAllThere();
         theBookAtItsEnd();
         heapsOfNoneAndAll();
@@ -322,6 +323,27 @@ public final class TermsTest {
             x.cross(0, one);
             int first = one == 2 ? 1 : 2;
             mindIs(x, "without " + one, 0, first, one == 0 ? 1 : 0);
+        }
+    }
+
+    /** The last MAN, too, loses any one of eight faces, the last of all among them. */
+    private static void paidForgetsAnyOfEight() {
+        for (int one = 0; one < 8; one++) {
+            FourthFace x = Due.withPeople(8);
+            for (int man = 0; man < 4; man++) {
+                x.man(19, 0);
+            }
+            for (int i = 7; i >= 0; i--) {
+                Scene.carryOverAndBack(x, 3, i);
+            }
+            x.setMan(3, 0, 5);
+            x.setPerson(one, 1, 9);
+            due.is("FARE 5 is paid", x.cross(3, one), 5);
+            int[] left = new int[7];
+            for (int i = 0; i < 7; i++) {
+                left[i] = i < one ? i : i + 1;
+            }
+            mindIs(x, "without " + one, 3, left);
         }
     }
 
